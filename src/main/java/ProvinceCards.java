@@ -708,7 +708,6 @@ public final class ProvinceCards {
             if (envoys >= MOST_ENVOYS) {
                 return NOBODY;
             }
-            // A row may hold what an envoy left there before undo() took him back.
             kinds[envoys] = kind;
             wins[envoys] = 0;
             envoys++;

@@ -370,6 +370,7 @@ public final class PromisesTest {
         due("follows(0, 1, 30)", x.follows(0, 1, 30), 25);
         due("follows(3, 1, 30)", x.follows(3, 1, 30), 30);
         due("follows(3, 1, 3)", x.follows(3, 1, 3), 3);
+        due("follows(0, 1, 31)", x.follows(0, 1, 31), 25);
         for (int bad : new int[] {-1, 6, LEAST, MOST}) {
             due("follows(" + bad + ", 0, 0)", x.follows(bad, 0, 0), BEYOND);
         }
@@ -432,6 +433,21 @@ public final class PromisesTest {
         due("trick(3, 3)", x.trick(3, 3), STATE);
     }
 
+    /** Whether a card beats one that was led, as the document has it. */
+    private static boolean beats(int card, int led, int trump) {
+        return card / 8 == led / 8 ? card > led : card / 8 == trump;
+    }
+
+    private static void tricksHangTogether(ProvinceCards x) {
+        int leader = x.now(0) % 2;
+        for (int t = 0; t < 4; t++) {
+            boolean beaten = beats(x.trick(t, 1 - leader), x.trick(t, leader), x.now(2));
+            due("trick(" + t + ", 2)", x.trick(t, 2), leader);
+            leader = beaten ? 1 - leader : leader;
+            due("trick(" + t + ", 3)", x.trick(t, 3), leader);
+        }
+    }
+
     private static void rowsAre(ProvinceCards x, int[][] due) {
         for (int t = 0; t < 4; t++) {
             for (int what = 0; what < 4; what++) {
@@ -456,6 +472,7 @@ public final class PromisesTest {
                 for (int t = 0; t < 4; t++) {
                     of0 += x.trick(t, 3) == 0 ? 1 : 0;
                 }
+                tricksHangTogether(x);
                 due("tricks() of " + kind0 + " and " + kind1, x.tricks(), of0);
             }
         }
@@ -505,14 +522,18 @@ public final class PromisesTest {
         due("now(0)", x.now(0), 20);
     }
 
+    /** What a twin tells of each month ahead of it is what comes to pass. */
     private static void eachMonthGoesAsTold() {
         for (int pair = 0; pair < 36; pair++) {
             ProvinceCards x = sent(pair / 6, pair % 6);
+            ProvinceCards twin = sent(pair / 6, pair % 6);
             x.mix(2 * (pair % 16) + 1);
+            twin.mix(2 * (pair % 16) + 1);
             int[] won = new int[6];
             int[] purse = {50, 50};
             for (int month = 0; month < 20; month++) {
-                int of0 = x.tricks();
+                int of0 = twin.tricks();
+                twin.months(1);
                 int whose = of0 > 2 ? 0 : of0 < 2 ? 1 : -1;
                 if (whose >= 0) {
                     won[whose == 0 ? pair / 6 : pair % 6]++;
@@ -639,8 +660,15 @@ public final class PromisesTest {
         }
     }
 
-    /** Whatever when() answers is what on() tells, up to the hundredth month and not beyond. */
+    /** Whatever when() answers is what on() tells; as months come again after 96, none is first later than that. */
     private static void latestWhen() {
+        ProvinceCards late = sent(0, 2);
+        late.mix(11);
+        late.months(19);
+        for (int p = 0; p < 8; p++) {
+            late.province(p, -1);
+        }
+        due("when(2, 0)", late.when(2, 0), 96);
         for (int pair = 0; pair < 36; pair++) {
             ProvinceCards x = sent(pair / 6, pair % 6);
             for (int state = -1; state < 2; state++) {
@@ -673,6 +701,14 @@ public final class PromisesTest {
         }
         due("now(0)", x.now(0), 5);
         due("status(3)", x.status(3), 2);
+        x = sent(2, 0);
+        x.mix(21);
+        x.months(4);
+        for (int p = 0; p < 8; p++) {
+            x.province(p, -1);
+        }
+        due("all(0)", x.all(0), 70);
+        due("then(0, 70, 0)", x.then(0, 70, 0), 255);
     }
 
     private static void best() {
@@ -718,6 +754,7 @@ public final class PromisesTest {
             }
             due("now(1)", x.now(1), 5);
         }
+        due("mixed(0, 3)", sent(0, 0).mixed(0, 3), 31);
         ProvinceCards x = new ProvinceCards();
         due("mixed(0, 40)", x.mixed(0, 40), 1);
         for (int bad : new int[] {-1, 0, 41, LEAST, MOST}) {
@@ -779,29 +816,18 @@ public final class PromisesTest {
 
     private static void rest() {
         promise = 26;
-        for (int pair = 0; pair < 36; pair += 7) {
+        for (int pair = 0; pair < 36; pair += 5) {
             ProvinceCards x = sent(pair / 6, pair % 6);
             x.months(8);
             x.image();
             for (int n : new int[] {1, 4, 30}) {
-                int most = -1;
-                int best = -1;
-                for (int idle = 0; idle <= 30; idle++) {
-                    x.send(0, -1);
-                    x.send(1, -1);
-                    pass(x, idle);
-                    x.send(0, pair / 6);
-                    x.send(1, pair % 6);
-                    int has = Integer.bitCount(x.then(1, n, 0));
-                    best = has > most ? idle : best;
-                    most = Math.max(has, most);
-                    x.undo();
-                }
-                due("rest(1, " + n + ")", x.rest(1, n), best);
+                due("rest(0, " + n + ")", x.rest(0, n), restByHand(x, 0, n));
+                due("rest(1, " + n + ")", x.rest(1, n), restByHand(x, 1, n));
             }
             due("now(0)", x.now(0), 8);
             due("now(4)", x.now(4), pair / 6);
         }
+        due("rest(0, 9)", sent(0, 1).rest(0, 9), 30);
         // What is held elsewhere is lost while both rest.
         ProvinceCards x = six();
         x.send(0, 0);
@@ -814,6 +840,23 @@ public final class PromisesTest {
         for (int bad : new int[] {-1, 2, LEAST, MOST}) {
             due("rest(" + bad + ", 1)", x.rest(bad, 1), BEYOND);
         }
+    }
+
+    private static int restByHand(ProvinceCards x, int state, int n) {
+        int most = -1;
+        int best = -1;
+        for (int idle = 0; idle <= 30; idle++) {
+            int sent0 = x.send(0, -1);
+            int sent1 = x.send(1, -1);
+            pass(x, idle);
+            x.send(0, sent0);
+            x.send(1, sent1);
+            int has = Integer.bitCount(x.then(state, n, 0));
+            best = has > most ? idle : best;
+            most = Math.max(has, most);
+            x.undo();
+        }
+        return best;
     }
 
     private static void peace() {
@@ -911,6 +954,14 @@ public final class PromisesTest {
         due("spa()", spaOf(x, "fox for0;fox for 0000000000000000000000000000000000000000000000000000000000000000001"), 2);
         due("now(4)", x.now(4), 6);
         due("now(5)", x.now(5), 7);
+        due("now(0)", x.now(0), 0);
+        // What stood behind the end on an older tape is no part of this one.
+        due("spa()", spaOf(x, "mix 29"), 1);
+        due("now(1)", x.now(1), 29);
+        due("spa()", spaOf(x, "mix 9"), 1);
+        due("now(1)", x.now(1), 9);
+        due("spa()", spaOf(x, "mix 1"), 1);
+        due("now(1)", x.now(1), 1);
         x = new ProvinceCards();
         StringBuilder most = new StringBuilder("mix1");
         for (int i = 0; i < 23; i++) {
@@ -925,9 +976,10 @@ public final class PromisesTest {
             "fox for;", "foxfor 1", "fox fox", "fox 1", "mix", "mix 0", "mix 4", "mix 32", "mix 33", "mix 1000", "mix 4294967297",
             "mix 5 5", "mix x", "mix;", "mix 5x", "province", "province 8 1", "province 1", "province 1 ", "province 1 2",
             "province 1 fre", "province 1 free 1", "province 11", "province free 1", "free", "for 1", "1", "Fox", "fox\tfor 1",
-            "\tfox", "fox#", "fox for -1", "mix 5;province 3 0;fix", "mix 7,", "province 1000 0", "province 0 1000", "mix 5 ; "};
+            "\tfox", "fox#", "fox for -1", "mix 5;province 3 0;fix", "mix 7,", "province 1000 0", "province 0 1000", "mix 5 ; ", "foxz",
+            "afox"};
         int[] places = {0, 3, 0, 4, 5, 5, 0, 7, 8, 8, 8, 7, 0, 4, 4, 3, 4, 4, 4, 4, 4, 4, 6, 4, 3, 5, 8, 9, 10, 11, 11, 11, 16, 9, 9,
-            0, 0, 0, 0, 3, 0, 3, 8, 19, 5, 9, 11, 8};
+            0, 0, 0, 0, 3, 0, 3, 8, 19, 5, 9, 11, 8, 0, 0};
         ProvinceCards x = six();
         x.send(1, 3);
         for (int i = 0; i < texts.length; i++) {
@@ -1063,6 +1115,8 @@ public final class PromisesTest {
         due("copy(0, -1, 1, 0, 1)", x.copy(0, -1, 1, 0, 1), BEYOND);
         due("copy(0, 0, 1, -1, 1)", x.copy(0, 0, 1, -1, 1), BEYOND);
         due("copy(0, 0, 1, 0, -1)", x.copy(0, 0, 1, 0, -1), BEYOND);
+        due("copy(0, 3, 1, 0, 4)", x.copy(0, 3, 1, 0, 4), BEYOND);
+        due("copy(0, 0, 1, 1, 4)", x.copy(0, 0, 1, 1, 4), BEYOND);
         due("copy(0, MOST, 1, 0, MOST)", x.copy(0, MOST, 1, 0, MOST), BEYOND);
         due("copy(0, 0, 1, MOST, 1)", x.copy(0, 0, 1, MOST, 1), BEYOND);
         due("copy(0, 1, 1, 1, MOST)", x.copy(0, 1, 1, 1, MOST), BEYOND);
@@ -1284,6 +1338,10 @@ public final class PromisesTest {
         due("count(1)", x.count(1), 3);
         due("count(2)", x.count(2), 6);
         due("count(3)", x.count(3), 10001);
+        x.envoy(0);
+        x.envoy(0);
+        x.won(7, 9);
+        due("count(3)", x.count(3), 10010);
         for (int bad : new int[] {-1, 4, LEAST, MOST}) {
             due("count(" + bad + ")", x.count(bad), BEYOND);
         }
