@@ -735,6 +735,16 @@ public final class PromisesTest {
         x.send(0, -1);
         x.send(1, -1);
         due("best(1, 40)", x.best(1, 40), 0);
+        // With all eight there, and with one alone.
+        x.envoy(1);
+        x.envoy(1);
+        due("best(1, 40)", x.best(1, 40), 0);
+        for (int n = 1; n <= 40; n++) {
+            ProvinceCards alone = new ProvinceCards();
+            alone.envoy(3);
+            alone.send(0, 0);
+            due("best(1, " + n + ")", alone.best(1, n), 0);
+        }
         for (int bad : new int[] {-1, 0, 41, LEAST, MOST}) {
             due("best(0, " + bad + ")", x.best(0, bad), BEYOND);
         }
@@ -888,6 +898,11 @@ public final class PromisesTest {
         due("champion(0)", x.champion(0), 4);
         x.won(5, 9999);
         due("champion(0)", x.champion(0), 5);
+        x.envoy(0);
+        x.envoy(0);
+        x.won(5, 3);
+        x.won(7, 4);
+        due("champion(0)", x.champion(0), 7);
         for (int pair = 0; pair < 36; pair++) {
             x = sent(pair / 6, pair % 6);
             x.won(2, 3);
