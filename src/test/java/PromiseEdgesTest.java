@@ -129,6 +129,7 @@ public final class PromiseEdgesTest {
         sentence("29: feed: BEYOND: n", PromiseEdgesTest::feedBeyond);
         sentence("29: feed: FULL", PromiseEdgesTest::feedFull);
         sentence("30: wipe: THE TAPE is empty: how many it had", PromiseEdgesTest::wipeHad);
+        sentence("31: spa: whose ITEMS come to what there is", PromiseEdgesTest::spaAdds);
         sentence("31: spa: and empty then", PromiseEdgesTest::spaEmptiesTape);
         sentence("31: spa: how many ITEMS", PromiseEdgesTest::spaItems);
         sentence("31: spa: With a FAULT: -1 less its place", PromiseEdgesTest::spaFault);
@@ -163,6 +164,7 @@ public final class PromiseEdgesTest {
         sentence("36: book: MISSING", PromiseEdgesTest::bookMissing);
         sentence("36: book: BEYOND: state", PromiseEdgesTest::bookNoState);
         sentence("37: read: how many pairs", PromiseEdgesTest::readAllAndNone);
+        sentence("37: read: pairs of a KIND of one and a MIX", PromiseEdgesTest::readPairs);
         sentence("37: read: make it just so", PromiseEdgesTest::readJustSo);
         sentence("37: read: BEYOND: no such sheet", PromiseEdgesTest::readNoSheet);
         sentence("37: read: MISSING", PromiseEdgesTest::readMissing);
@@ -688,6 +690,8 @@ public final class PromiseEdgesTest {
         ProvinceCards x = Edge.fresh();
         x.envoy(3);
         due("best(0, 1) where one is", x.best(0, 1), 0);
+        // Whoever plays for state 0 in month 3 loses: to have nobody sent would be as good, but is no answer.
+        due("best(0, 1) where none wins", Edge.sentAt(0, 0, 3).best(0, 1), 0);
     }
 
     /** Of these tables the 40th month makes another one the best. */
@@ -898,9 +902,11 @@ public final class PromiseEdgesTest {
         due("champion(100)", x.champion(100), 2);
         x.won(5, 1);
         due("champion(0)", x.champion(0), 5);
-        x = Edge.eight();
-        x.won(7, 9999);
-        due("champion(0)", x.champion(0), 7);
+        for (int envoy = 0; envoy < 8; envoy++) {
+            x = Edge.eight();
+            x.won(envoy, 1);
+            due("champion(0)", x.champion(0), envoy);
+        }
     }
 
     private static void championLeast() {
@@ -983,6 +989,30 @@ public final class PromiseEdgesTest {
         due("spa()", x.spa(), -1);
         due("feed(32, 4)", x.feed(32, 4), 4);
         due("wipe()", x.wipe(), 4);
+    }
+
+    /** What no item names stays: the month, who is there and has won, the other provinces, and purses. */
+    private static void spaAdds() {
+        ProvinceCards x = Edge.rich();
+        x.wipe();
+        int purse = x.now(6);
+        int set = x.then(0, 0, 0);
+        int won = x.of(2, 1);
+        due("spa()", Edge.spaOf(x, "mix 31"), 1);
+        due("now(0)", x.now(0), 13);
+        due("now(1)", x.now(1), 31);
+        due("now(4)", x.now(4), 2);
+        due("now(5)", x.now(5), 4);
+        due("now(6)", x.now(6), purse);
+        due("then(0, 0, 0)", x.then(0, 0, 0), set);
+        due("of(2, 1)", x.of(2, 1), won);
+        due("spa()", Edge.spaOf(x, "fox for 1;province 1 free"), 2);
+        due("count(0)", x.count(0), 7);
+        due("of(6, 0)", x.of(6, 0), 4);
+        due("now(4)", x.now(4), 2);
+        due("now(5)", x.now(5), 6);
+        due("then(0, 0, 0)", x.then(0, 0, 0), set & ~2);
+        due("now(0)", x.now(0), 13);
     }
 
     private static void spaEmptiesTape() {
@@ -1280,6 +1310,32 @@ public final class PromiseEdgesTest {
         due("read(0, 1, 4) of now alone", x.read(0, 1, 4), 96);
         x.write(0, 0, 1);
         due("read(0, 1, 4)", x.read(0, 1, 4), 0);
+    }
+
+    private static void readPairs() {
+        for (int envoy : new int[] {0, 3, 5}) {
+            ProvinceCards x = Edge.sent(0, 3);
+            x.sheet(0, 16, 9);
+            x.book(0, 0);
+            due("read(0, 0, " + envoy + ")", x.read(0, 0, envoy), pairsByTwins(envoy));
+        }
+    }
+
+    /** How many of the 6 times 16 twins have the sets of state 0 that an envoy against one bribed has, in 9 months. */
+    private static int pairsByTwins(int envoy) {
+        int pairs = 0;
+        for (int i = 0; i < 96; i++) {
+            ProvinceCards told = Edge.sent(0, 3);
+            ProvinceCards twin = Edge.sent(0, 3);
+            twin.turn(envoy, i / 16);
+            twin.mix(2 * (i % 16) + 1);
+            int same = 1;
+            for (int n = 0; n < 9; n++) {
+                same &= told.then(0, n, 0) == twin.then(0, n, 0) ? 1 : 0;
+            }
+            pairs += same;
+        }
+        return pairs;
     }
 
     /** Nobody is against state 1, so each pair makes it so, until the last number is another one. */

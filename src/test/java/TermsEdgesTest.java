@@ -799,6 +799,19 @@ public final class TermsEdgesTest {
     }
 
     private static void faultOfWord() {
+        String[] texts = {"envoy", "miser", "scholar", "bribed", "fox", "marshal", "mix 5", "province 1 0"};
+        for (String text : texts) {
+            String word = text.split(" ")[0];
+            for (int i = 0; i < word.length(); i++) {
+                due("another letter", Edge.spaOf(Edge.fresh(), text.substring(0, i) + 'q' + text.substring(i + 1)), -1);
+            }
+        }
+        for (String word : new String[] {"qor", "fqr", "foq"}) {
+            due("fox " + word, Edge.spaOf(Edge.fresh(), "fox " + word + " 1"), -5);
+        }
+        for (String word : new String[] {"qree", "fqee", "frqe", "freq"}) {
+            due("province 1 " + word, Edge.spaOf(Edge.fresh(), "province 1 " + word), -12);
+        }
         due("free", Edge.spaOf(Edge.fresh(), "free"), -1);
         due("for 1", Edge.spaOf(Edge.fresh(), "for 1"), -1);
         due("mix fox", Edge.spaOf(Edge.fresh(), "mix fox"), -5);
