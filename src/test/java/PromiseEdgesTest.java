@@ -10,6 +10,7 @@ public final class PromiseEdgesTest {
     private static final int MOST = Edge.MOST;
 
     public static void main(String[] args) {
+        Edge.sentence("What it is: An object is used for at most 512 calls", PromiseEdgesTest::lastCallIsAnswered);
         theTable();
         theEnvoys();
         theMonths();
@@ -187,6 +188,14 @@ public final class PromiseEdgesTest {
     }
 
     // ---- a new object, and the table
+
+    private static void lastCallIsAnswered() {
+        ProvinceCards x = Edge.fresh();
+        for (int call = 1; call < 512; call++) {
+            due("mix(0) as call " + call, x.mix(0), BEYOND);
+        }
+        due("status(-1) as call 512", x.status(-1), 511);
+    }
 
     private static void newHasNoEnvoys() {
         Edge.rich();

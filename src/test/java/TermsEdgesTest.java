@@ -72,6 +72,7 @@ public final class TermsEdgesTest {
         sentence("1: FOLLOWS: BRIBED: if all do, the one of lowest RANK", TermsEdgesTest::bribedMustBeat);
         sentence("1: FOLLOWS: FOX: as ENVOY does, if the one led is TRUMP", TermsEdgesTest::foxAtTrump);
         sentence("1: FOLLOWS: MARSHAL: if none does, of all the one of lowest RANK", TermsEdgesTest::marshalCannotBeat);
+        sentence("1: (Of several of a RANK the card of the least number.)", TermsEdgesTest::ranksDifferInAHand);
         sentence("1: MAY: cards of the SUIT that was led, if he has any; else all", TermsEdgesTest::mayPlay);
         sentence("1: A SCHOLAR (or one of a KIND under it) MAY play all in MONTHS whose rest by 3 is 0", TermsEdgesTest::scholarRevokes);
     }
@@ -479,6 +480,21 @@ public final class TermsEdgesTest {
         due("follows(5, 0, 31)", x.follows(5, 0, 31), 10);
     }
 
+    /** As MIX is odd, a hand has each rank once at most; so no call can show which of several would be played. */
+    private static void ranksDifferInAHand() {
+        ProvinceCards x = Edge.fresh();
+        for (int v = 1; v <= 31; v += 2) {
+            x.mix(v);
+            for (int first : new int[] {0, 4}) {
+                int ranks = 0;
+                for (int place = first; place < first + 4; place++) {
+                    ranks |= 1 << x.card(place, 9999) % 8;
+                }
+                due("ranks of four cards with mix " + v, Integer.bitCount(ranks), 4);
+            }
+        }
+    }
+
     /** Month 10, mix 1: 10 to 13 are of suit 1, and 14 to 17 of suits 1 and 2. */
     private static void mayPlay() {
         ProvinceCards x = Edge.pass(Edge.six(), 10);
@@ -666,6 +682,7 @@ public final class TermsEdgesTest {
         due("mix 15", spaThenMix("mix 15"), 15);
         due("province 11", Edge.spaOf(Edge.fresh(), "province 11"), -10);
         due("mix9", spaThenMix("mix9"), 9);
+        due("mix 0000031", spaThenMix("mix 0000031"), 31);
     }
 
     private static int spaThenMix(String text) {
@@ -679,7 +696,8 @@ public final class TermsEdgesTest {
         due("fox`", Edge.spaOf(Edge.fresh(), "fox`"), -4);
         due("fox{", Edge.spaOf(Edge.fresh(), "fox{"), -4);
         due("Fox", Edge.spaOf(Edge.fresh(), "Fox"), -1);
-        due("foX", Edge.spaOf(Edge.fresh(), "foX"), -1);
+        due("foxA", Edge.spaOf(Edge.fresh(), "foxA"), -4);
+        due("foxZ", Edge.spaOf(Edge.fresh(), "foxZ"), -4);
         due("fox a", Edge.spaOf(Edge.fresh(), "fox a"), -5);
         due("fox z", Edge.spaOf(Edge.fresh(), "fox z"), -5);
         due("foxa", Edge.spaOf(Edge.fresh(), "foxa"), -1);
