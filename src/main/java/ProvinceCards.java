@@ -251,7 +251,7 @@ public final class ProvinceCards {
         if (!isProvince(province) || !isStateOrNobody(state)) {
             return finding(BEYOND);
         }
-        lookAhead(0);
+        ahead.become(table);
         for (int n = 0; n <= MOST_MONTHS_ON; n++) {
             if (ahead.owner[province] == state) {
                 return n;
@@ -265,7 +265,7 @@ public final class ProvinceCards {
         if (!isState(state)) {
             return finding(BEYOND);
         }
-        lookAhead(0);
+        ahead.become(table);
         for (int n = 0; n <= MOST_MONTHS_ON; n++) {
             if (ahead.owned(state) == PROVINCES) {
                 return n;
@@ -287,7 +287,7 @@ public final class ProvinceCards {
         int bestEnvoy = 0;
         int most = -1;
         for (int envoy = 0; envoy < table.envoys; envoy++) {
-            lookAhead(0);
+            ahead.become(table);
             ahead.sent[state] = envoy;
             ahead.passMonths(n, game);
             if (ahead.owned(state) > most) {
@@ -312,7 +312,7 @@ public final class ProvinceCards {
         int bestKind = 0;
         int most = -1;
         for (int kind = 0; kind < KINDS; kind++) {
-            lookAhead(0);
+            ahead.become(table);
             ahead.kinds[envoy] = kind;
             ahead.passMonths(n, game);
             if (ahead.wins[envoy] > most) {
@@ -387,7 +387,7 @@ public final class ProvinceCards {
 
     public int spa() {
         // Items come to a table of their own first, so that a fault leaves this one as it was.
-        lookAhead(0);
+        ahead.become(table);
         int items = tape.parse(ahead);
         if (items >= 0) {
             table.become(ahead);
@@ -466,7 +466,7 @@ public final class ProvinceCards {
         if (!isState(state)) {
             return finding(BEYOND);
         }
-        lookAhead(0);
+        ahead.become(table);
         for (int i = 0; i < sheets[s].size; i++) {
             sheets[s].put(i, ahead.ownedSet(state));
             ahead.passMonths(1, game);
@@ -485,7 +485,7 @@ public final class ProvinceCards {
         int pairs = 0;
         for (int kind = 0; kind < KINDS; kind++) {
             for (int v = 1; v <= MOST_MIX; v += 2) {
-                lookAhead(0);
+                ahead.become(table);
                 ahead.kinds[envoy] = kind;
                 ahead.mixing = v;
                 pairs += comesAsTold(sheets[s], state) ? 1 : 0;
@@ -573,7 +573,7 @@ public final class ProvinceCards {
         int bestSoFar = 1;
         int most = -1;
         for (int v = 1; v <= MOST_MIX; v += 2) {
-            lookAhead(0);
+            ahead.become(table);
             ahead.mixing = v;
             ahead.passMonths(n, game);
             if (ahead.owned(stateOrNobody) > most) {

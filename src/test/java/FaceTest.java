@@ -6,7 +6,9 @@ import java.nio.file.Files;
 import java.nio.file.Path;
 import java.util.ArrayList;
 import java.util.List;
+import java.util.Map;
 import java.util.Set;
+import java.util.TreeMap;
 import java.util.TreeSet;
 import java.util.regex.Matcher;
 import java.util.regex.Pattern;
@@ -15,6 +17,9 @@ import java.util.regex.Pattern;
 public final class FaceTest {
     private static final Path SOURCE = Path.of("src/main/java/ProvinceCards.java");
     private static final Path DOC = Path.of("../shared/DOC.md");
+    private static final Pattern HEAD = Pattern.compile("^((?: {4}){1,2})[\\w \\[\\]]*\\w\\(.*\\) \\{$");
+    private static final Pattern CALL = Pattern.compile("\\b(\\w+)\\(");
+    private static final Pattern MAKES = Pattern.compile("\\bnew\\b|\\bclone\\(|\\bcopyOf|\\bsubstring\\(|\\btoCharArray\\(|\\bvalues\\(");
     private static int wrong = 0;
 
     public static void main(String[] args) throws Exception {
@@ -23,6 +28,8 @@ public final class FaceTest {
         noPrivateNameIsPublic();
         textKeepsToTheLanguage();
         methodsAreShort();
+        noCallMakesObjects();
+        callsStayShallow();
         System.out.println(wrong == 0 ? "the face is as due" : wrong + " faults of the face");
         if (wrong != 0) {
             System.exit(1);
@@ -134,21 +141,74 @@ public final class FaceTest {
         }
     }
 
+    /** The lines of each method and constructor, its head first. */
+    private static List<List<String>> methods() throws Exception {
+        List<List<String>> methods = new ArrayList<>();
+        String end = "";
+        for (String line : Files.readAllLines(SOURCE)) {
+            String code = line.replaceAll("//.*|/\\*\\*.*", "");
+            Matcher head = HEAD.matcher(code);
+            if (end.isEmpty() && head.matches()) {
+                methods.add(new ArrayList<>());
+                end = head.group(1) + "}";
+            }
+            if (!end.isEmpty()) {
+                methods.get(methods.size() - 1).add(code);
+            }
+            end = code.equals(end) ? "" : end;
+        }
+        if (methods.size() < 42) {
+            fault("only " + methods.size() + " methods were found in the text");
+        }
+        return methods;
+    }
+
+    private static String nameOf(List<String> method) {
+        return method.get(0).replaceAll("\\(.*", "").replaceAll(".* ", "");
+    }
+
     private static void methodsAreShort() throws Exception {
-        List<String> lines = Files.readAllLines(SOURCE);
-        int start = -1;
-        String indent = "";
-        for (int i = 0; i < lines.size(); i++) {
-            Matcher head = Pattern.compile("^((?: {4}){1,2})\\w.*\\) \\{$").matcher(lines.get(i));
-            if (start < 0 && head.matches()) {
-                start = i;
-                indent = head.group(1);
-            } else if (start >= 0 && lines.get(i).equals(indent + "}")) {
-                if (i - start + 1 > 60) {
-                    fault("a method of over sixty lines at line " + (start + 1));
-                }
-                start = -1;
+        for (List<String> method : methods()) {
+            if (method.size() > 60) {
+                fault(nameOf(method) + " is longer than sixty lines");
             }
         }
+    }
+
+    /** All calls of a run share one room, so objects are made with the class's own alone. */
+    private static void noCallMakesObjects() throws Exception {
+        for (List<String> method : methods()) {
+            String text = String.join("\n", method);
+            if (!nameOf(method).equals("ProvinceCards") && MAKES.matcher(text).find()) {
+                fault(nameOf(method) + " makes an object");
+            }
+        }
+    }
+
+    /** Whatever stands in a text as called counts, the library's calls too, though a run may never go there. */
+    private static void callsStayShallow() throws Exception {
+        Map<String, Set<String>> calls = new TreeMap<>();
+        for (List<String> method : methods()) {
+            Set<String> called = calls.computeIfAbsent(nameOf(method), name -> new TreeSet<>());
+            Matcher call = CALL.matcher(String.join("\n", method.subList(1, method.size())));
+            while (call.find()) {
+                called.add(call.group(1));
+            }
+        }
+        for (String name : calls.keySet()) {
+            int depth = depth(name, calls, 0);
+            if (depth > 8) {
+                fault(name + " goes " + depth + " calls deep");
+            }
+        }
+    }
+
+    private static int depth(String name, Map<String, Set<String>> calls, int above) {
+        int deepest = 0;
+        for (String called : calls.getOrDefault(name, Set.of())) {
+            // One that calls itself, by whatever way, would never end.
+            deepest = above > 20 ? 20 : Math.max(deepest, depth(called, calls, above + 1));
+        }
+        return deepest + 1;
     }
 }
